@@ -980,9 +980,12 @@ public final class PromisesTest {
     private static void dueDistance(int want, String here, String there) {
         Couplet x = typed(0, here);
         typeInto(x, 1, there);
+        // Asked twice, as what one call leaves behind must not matter to the next one.
         begin(33);
         due(want, x.distance());
+        due(want, x.distance());
         begin(34);
+        due(want, x.distanceByWays());
         due(want, x.distanceByWays());
     }
 
