@@ -132,8 +132,7 @@ public final class ModelTest {
             }
         } catch (RuntimeException e) {
             // The right name does not do if it was the library or the machine that threw.
-            boolean own = e.getStackTrace().length == 0 || e.getStackTrace()[0].getClassName().startsWith("Couplet");
-            return own ? e.getClass().getName() : "not thrown by the program: " + e;
+            return Checks.thrownByProgram(e) ? e.getClass().getName() : "not thrown by the program: " + e;
         }
     }
 

@@ -1,25 +1,6 @@
-import java.util.NoSuchElementException;
-
 /** For each promise of the document, answers that were worked out by hand from its words. */
-public final class PromisesTest {
-    private static final Class<?> INDEX = IndexOutOfBoundsException.class;
-    private static final Class<?> ARGUMENT = IllegalArgumentException.class;
-    private static final Class<?> STATE = IllegalStateException.class;
-    private static final Class<?> ELEMENT = NoSuchElementException.class;
-    private static final Class<?> ARITHMETIC = ArithmeticException.class;
+public final class PromisesTest extends Checks {
     private static final int[] NO_ENDS = {-1, 2, Integer.MIN_VALUE, Integer.MAX_VALUE};
-
-    private static int promise = 0;
-    private static int row = 0;
-    private static int wrong = 0;
-
-    private interface Call {
-        Object answer();
-    }
-
-    private interface EndCall {
-        Object answer(int end);
-    }
 
     public static void main(String[] args) {
         aNewObject();
@@ -53,111 +34,19 @@ public final class PromisesTest {
         meanRun();
         textNumber();
         noSuchEnds();
-        System.out.println(wrong == 0 ? "all promises hold" : wrong + " answers are not as due");
-        if (wrong != 0) {
-            System.exit(1);
-        }
+        finish("all promises hold");
     }
 
     // Helpers
 
     private static void begin(int number) {
-        promise = number;
-        row = 0;
-    }
-
-    private static void due(Object want, Object got) {
-        row++;
-        if (!want.equals(got)) {
-            wrong++;
-            System.out.println("promise " + promise + ", row " + row + ": answered " + got + ", due is " + want);
-        }
-    }
-
-    private static void dueThrow(Class<?> want, Call call) {
-        Object got;
-        try {
-            got = call.answer();
-        } catch (RuntimeException e) {
-            got = thrownByProgram(e) ? e.getClass() : "the library's " + e;
-        }
-        due(want, got);
-    }
-
-    /** An exception of the library or the machine is never an answer, though it has the right name. */
-    private static boolean thrownByProgram(RuntimeException e) {
-        return e.getStackTrace().length > 0 && e.getStackTrace()[0].getClassName().startsWith("Couplet");
+        begin("promise " + number);
     }
 
     private static void dueNoEnd(EndCall call) {
         for (int end : NO_ENDS) {
             dueThrow(INDEX, () -> call.answer(end));
         }
-    }
-
-    private static Couplet typed(int end, String text) {
-        Couplet x = new Couplet();
-        typeInto(x, end, text);
-        return x;
-    }
-
-    private static Couplet shared(String text) {
-        Couplet x = typed(0, text);
-        x.deliverAll();
-        x.moveCursor(0, 0);
-        return x;
-    }
-
-    private static void typeInto(Couplet x, int end, String text) {
-        for (char c : text.toCharArray()) {
-            x.type(end, c);
-        }
-    }
-
-    private static String text(Couplet x, int end) {
-        StringBuilder line = new StringBuilder();
-        for (int i = 0; i < x.length(end); i++) {
-            line.append(x.charAt(end, i));
-        }
-        return line.toString();
-    }
-
-    private static String centre(Couplet x) {
-        StringBuilder line = new StringBuilder();
-        for (int i = 0; i < x.centreLength(); i++) {
-            line.append(x.centreChar(i));
-        }
-        return line.toString();
-    }
-
-    private static String byHistory(Couplet x, int end) {
-        StringBuilder line = new StringBuilder();
-        for (int i = 0; i < x.lengthByHistory(end); i++) {
-            line.append(x.charByHistory(end, i));
-        }
-        return line.toString();
-    }
-
-    private static String message(Couplet x, int index) {
-        StringBuilder line = new StringBuilder().append(x.historyEnd(index));
-        for (int i = 0; i < x.historySize(index); i++) {
-            line.append(' ').append(x.historyKind(index, i)).append(x.historyPosition(index, i));
-        }
-        return line.toString();
-    }
-
-    /** 60 characters at the end 0 and 200 operations in all. */
-    private static Couplet exhausted() {
-        Couplet x = new Couplet();
-        for (int i = 0; i < 59; i++) {
-            x.type(0, 'a');
-        }
-        for (int i = 0; i < 70; i++) {
-            x.type(1, 'b');
-            x.erase(1);
-        }
-        x.type(0, 'a');
-        return x;
     }
 
     // The promises
