@@ -1,4 +1,6 @@
 import java.math.BigInteger;
+import java.util.ArrayList;
+import java.util.List;
 
 /** The boundary cases of the promises 11 to 17 and 28 to 37: texts, the history, and what follows from them. */
 final class AnswerEdges extends Checks {
@@ -449,12 +451,31 @@ final class AnswerEdges extends Checks {
         due(false, x.agree());
     }
 
+    private static void promise32_allAgreeInTheEndHoweverMuchWasUnderWay() {
+        Couplet x = shared("abc");
+        for (int i = 0; i < 49; i++) {
+            x.insert(0, i % 3, (char) ('0' + i % 10));
+            x.insert(1, i % 4, (char) ('A' + i % 26));
+            if (i % 3 == 0) {
+                x.delete(0, (i * 7) % x.length(0));
+                x.delete(1, (i * 5) % x.length(1));
+            }
+        }
+        due(false, x.agree());
+        x.deliverAll();
+        due(true, x.agree());
+        due(0, x.distance());
+        due(x.textNumber(0), x.textNumber(1));
+    }
+
     // Promises 33 and 34: the distances
 
     private static void dueDistance(int want, Couplet x) {
-        due(want, x.distance());
-        due(want, x.distanceByWays());
-        due(want, x.distance());
+        // Asked twice, as what one call leaves behind must not matter to the next one.
+        for (int i = 0; i < 2; i++) {
+            due(want, x.distance());
+            due(want, x.distanceByWays());
+        }
     }
 
     private static void dueDistance(int want, String here, String there) {
@@ -520,10 +541,6 @@ final class AnswerEdges extends Checks {
     }
 
     private static void promise34_answersTheSameAsDistance() {
-        dueDistance(1, "a", "");
-        dueDistance(1, "", "a");
-        dueDistance(1, "ab", "a");
-        dueDistance(1, "ab", "b");
         dueDistance(2, "ab", "ba");
         dueDistance(4, "abc", "cba");
         dueDistance(5, "abcabba", "cbabac");
@@ -531,6 +548,31 @@ final class AnswerEdges extends Checks {
         dueDistance(6, "aaaa", "aaaaaaaaaa");
         dueDistance(6, "aaaaaaaaaa", "aaaa");
         dueDistance(2, "x".repeat(59) + "y", "y" + "x".repeat(59));
+    }
+
+    private static void promise34_allTextsOfUpTo5CharactersOfTwo() {
+        List<String> texts = new ArrayList<>(List.of(""));
+        for (int i = 0; texts.get(i).length() < 5; i++) {
+            texts.add(texts.get(i) + "a");
+            texts.add(texts.get(i) + "b");
+        }
+        due(63, texts.size());
+        for (String here : texts) {
+            for (String there : texts) {
+                dueDistance(fewest(here, there), here, there);
+            }
+        }
+    }
+
+    /** The fewest insertions and deletions, found by trying both wherever the first characters differ. */
+    private static int fewest(String here, String there) {
+        if (here.isEmpty() || there.isEmpty()) {
+            return here.length() + there.length();
+        }
+        if (here.charAt(0) == there.charAt(0)) {
+            return fewest(here.substring(1), there.substring(1));
+        }
+        return 1 + Math.min(fewest(here.substring(1), there), fewest(here, there.substring(1)));
     }
 
     private static void promise34_oneTextOf120AndOneOf60() {

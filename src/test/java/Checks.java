@@ -177,7 +177,8 @@ abstract class Checks {
 
     static String text(Couplet x, int end) {
         StringBuilder line = new StringBuilder();
-        for (int i = 0; i < x.length(end); i++) {
+        int length = x.length(end);
+        for (int i = 0; i < length; i++) {
             line.append(x.charAt(end, i));
         }
         return line.toString();
@@ -185,7 +186,8 @@ abstract class Checks {
 
     static String owners(Couplet x, int end) {
         StringBuilder line = new StringBuilder();
-        for (int i = 0; i < x.length(end); i++) {
+        int length = x.length(end);
+        for (int i = 0; i < length; i++) {
             line.append(x.ownerAt(end, i));
         }
         return line.toString();
@@ -193,7 +195,8 @@ abstract class Checks {
 
     static String centre(Couplet x) {
         StringBuilder line = new StringBuilder();
-        for (int i = 0; i < x.centreLength(); i++) {
+        int length = x.centreLength();
+        for (int i = 0; i < length; i++) {
             line.append(x.centreChar(i));
         }
         return line.toString();
@@ -201,7 +204,8 @@ abstract class Checks {
 
     static String byHistory(Couplet x, int end) {
         StringBuilder line = new StringBuilder();
-        for (int i = 0; i < x.lengthByHistory(end); i++) {
+        int length = x.lengthByHistory(end);
+        for (int i = 0; i < length; i++) {
             line.append(x.charByHistory(end, i));
         }
         return line.toString();
@@ -209,7 +213,8 @@ abstract class Checks {
 
     static String message(Couplet x, int index) {
         StringBuilder line = new StringBuilder().append(x.historyEnd(index));
-        for (int i = 0; i < x.historySize(index); i++) {
+        int size = x.historySize(index);
+        for (int i = 0; i < size; i++) {
             line.append(' ').append(x.historyKind(index, i)).append(x.historyPosition(index, i));
         }
         return line.toString();
@@ -235,8 +240,11 @@ abstract class Checks {
         if (x.centreLength() > 0) {
             line.append(" from ").append(x.centreChar(0)).append(" to ").append(x.centreChar(x.centreLength() - 1));
         }
-        if (x.centreRevision() > 0) {
-            line.append(" mean ").append(x.meanRun()).append(" last ").append(message(x, x.centreRevision() - 1));
+        int messages = x.centreRevision();
+        if (messages > 0) {
+            line.append(" mean ").append(x.meanRun()).append(" last from ").append(x.historyEnd(messages - 1))
+                    .append(' ').append(x.historySize(messages - 1)).append(x.historyKind(messages - 1, 0))
+                    .append(x.historyPosition(messages - 1, 0));
         }
         return line.toString();
     }

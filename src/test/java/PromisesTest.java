@@ -1,7 +1,5 @@
 /** For each promise of the document, answers that were worked out by hand from its words. */
 public final class PromisesTest extends Checks {
-    private static final int[] NO_ENDS = {-1, 2, Integer.MIN_VALUE, Integer.MAX_VALUE};
-
     public static void main(String[] args) {
         aNewObject();
         insert();
@@ -26,14 +24,12 @@ public final class PromisesTest extends Checks {
         messagesUnderWay();
         kept();
         history();
-        transformations();
         rowsOfOperations();
         agree();
         distances();
         ownShare();
         meanRun();
         textNumber();
-        noSuchEnds();
         finish("all promises hold");
     }
 
@@ -41,12 +37,6 @@ public final class PromisesTest extends Checks {
 
     private static void begin(int number) {
         begin("promise " + number);
-    }
-
-    private static void dueNoEnd(EndCall call) {
-        for (int end : NO_ENDS) {
-            dueThrow(INDEX, () -> call.answer(end));
-        }
     }
 
     // The promises
@@ -760,50 +750,6 @@ public final class PromisesTest extends Checks {
         due(-1, x.historyPosition(4, 0));
     }
 
-    /** One operation at each end on "abcdef": what the other one's entry in the history becomes. */
-    private static String entered(int laterEnd, char kind, int position, char otherKind, int otherPosition) {
-        Couplet x = shared("abcdef");
-        int before = x.centreRevision();
-        act(x, 1 - laterEnd, otherKind, otherPosition);
-        act(x, laterEnd, kind, position);
-        x.deliverUp(1 - laterEnd);
-        x.deliverUp(laterEnd);
-        String entry = message(x, before + 1);
-        x.deliverAll();
-        due(true, x.agree());
-        return entry;
-    }
-
-    private static void act(Couplet x, int end, char kind, int position) {
-        if (kind == 'i') {
-            x.insert(end, position, (char) ('0' + end));
-        } else {
-            x.delete(end, position);
-        }
-    }
-
-    private static void transformations() {
-        begin(8);
-        due("1 i4", entered(1, 'i', 3, 'i', 2));
-        due("1 i4", entered(1, 'i', 3, 'i', 3));
-        due("1 i3", entered(1, 'i', 3, 'i', 4));
-        due("0 i4", entered(0, 'i', 3, 'i', 2));
-        due("0 i3", entered(0, 'i', 3, 'i', 3));
-        due("0 i3", entered(0, 'i', 3, 'i', 4));
-        due("1 i2", entered(1, 'i', 3, 'd', 2));
-        due("1 i3", entered(1, 'i', 3, 'd', 3));
-        due("0 i2", entered(0, 'i', 3, 'd', 2));
-        due("0 i3", entered(0, 'i', 3, 'd', 3));
-        due("1 d4", entered(1, 'd', 3, 'i', 2));
-        due("1 d4", entered(1, 'd', 3, 'i', 3));
-        due("1 d3", entered(1, 'd', 3, 'i', 4));
-        due("0 d4", entered(0, 'd', 3, 'i', 3));
-        due("1 d2", entered(1, 'd', 3, 'd', 2));
-        due("1 n-1", entered(1, 'd', 3, 'd', 3));
-        due("1 d3", entered(1, 'd', 3, 'd', 4));
-        due("0 n-1", entered(0, 'd', 3, 'd', 3));
-    }
-
     private static void rowsOfOperations() {
         begin(9);
         // At the end 0, the first y passes four operations: behind the three typed, ahead of c.
@@ -960,23 +906,5 @@ public final class PromisesTest extends Checks {
             number = number * 31 + 126;
         }
         due(number, x.textNumber(1));
-    }
-
-    private static void noSuchEnds() {
-        Couplet x = shared("abc");
-        EndCall[] calls = {
-            e -> x.insert(e, 0, 'a'), e -> x.delete(e, 0), e -> x.type(e, 'a'), e -> x.erase(e),
-            e -> x.moveCursor(e, 0), e -> x.undo(e), e -> x.deliverUp(e), e -> x.deliverDown(e), null,
-            e -> x.length(e), e -> x.charAt(e, 0), e -> x.ownerAt(e, 0), e -> x.lengthByHistory(e),
-            e -> x.charByHistory(e, 0), null, null, e -> x.cursor(e), e -> x.mark(e),
-            e -> x.revision(e), e -> x.sent(e), e -> x.waiting(e), e -> x.runs(e), e -> x.up(e),
-            e -> x.down(e), e -> x.kept(e), null, null, null, null, null, null, null, null,
-            e -> x.ownShare(e), null, e -> x.textNumber(e)};
-        for (int i = 0; i < calls.length; i++) {
-            begin(i + 2);
-            if (calls[i] != null) {
-                dueNoEnd(calls[i]);
-            }
-        }
     }
 }
