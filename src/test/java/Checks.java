@@ -1,7 +1,7 @@
 import java.lang.reflect.InvocationTargetException;
 import java.lang.reflect.Method;
-import java.util.NoSuchElementException;
 import java.util.Map;
+import java.util.NoSuchElementException;
 import java.util.TreeMap;
 
 /** What the tests share: answers compared with those that are due, and objects to begin with. */
@@ -135,6 +135,15 @@ abstract class Checks {
     static void typeInto(Couplet x, int end, String text) {
         for (char c : text.toCharArray()) {
             x.type(end, c);
+        }
+    }
+
+    /** One operation of an end: the character that it inserts is its number. */
+    static void act(Couplet x, int end, char kind, int position) {
+        if (kind == 'i') {
+            x.insert(end, position, (char) ('0' + end));
+        } else {
+            x.delete(end, position);
         }
     }
 

@@ -1,15 +1,6 @@
 /** The boundary cases of the promises 8 to 10: messages on their way, and what they become. */
 final class DeliveryEdges extends Checks {
 
-    /** One operation of an end: the character that it inserts is its number. */
-    static void act(Couplet x, int end, char kind, int position) {
-        if (kind == 'i') {
-            x.insert(end, position, (char) ('0' + end));
-        } else {
-            x.delete(end, position);
-        }
-    }
-
     // Promise 8: deliverUp
 
     private static void promise8_endsAre0And1() {

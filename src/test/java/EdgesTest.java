@@ -14,7 +14,8 @@ public final class EdgesTest extends Checks {
         }
         begin("boundary cases of each promise");
         for (int promise = 1; promise <= PROMISES; promise++) {
-            due("promise " + promise + " has some", "promise " + promise + (counts.containsKey(promise) ? " has some" : " has none"));
+            String has = counts.containsKey(promise) ? " has some" : " has none";
+            due("promise " + promise + " has some", "promise " + promise + has);
         }
         finish("all boundary cases hold: " + counts);
     }

@@ -42,7 +42,7 @@ final class StateEdges extends Checks {
     private static int cursorAfter(int cursor, char kind, int position) {
         Couplet x = shared("abcd");
         x.moveCursor(1, cursor);
-        DeliveryEdges.act(x, 0, kind, position);
+        act(x, 0, kind, position);
         x.deliverUp(0);
         x.deliverDown(1);
         return x.cursor(1);
@@ -194,7 +194,7 @@ final class StateEdges extends Checks {
         x.insert(0, 1, 'x');
         x.deliverAll();
         due(2, x.mark(1));
-        DeliveryEdges.act(x, 1, kind, position);
+        act(x, 1, kind, position);
         return x.mark(1);
     }
 
@@ -403,7 +403,7 @@ final class StateEdges extends Checks {
         Couplet x = shared("abcdef");
         x.insert(0, 6, 'z');
         for (String operation : operations.split(" ")) {
-            DeliveryEdges.act(x, 0, operation.charAt(0), operation.charAt(1) - '0');
+            act(x, 0, operation.charAt(0), operation.charAt(1) - '0');
         }
         int runs = x.runs(0);
         x.deliverUp(0);
