@@ -596,6 +596,24 @@ final class AnswerEdges extends Checks {
         dueDistance(60, z);
     }
 
+    private static void promise34_farthestTexts() {
+        // The end 0 has all the first 60 characters of the end 1, which goes on to write others.
+        Couplet x = typed(0, "x".repeat(60));
+        typeInto(x, 1, "y".repeat(60));
+        x.deliverUp(1);
+        x.deliverDown(1);
+        x.deliverUp(1);
+        x.deliverDown(0);
+        x.deliverDown(0);
+        for (int i = 0; i < 40; i++) {
+            x.erase(1);
+        }
+        typeInto(x, 1, "z".repeat(40));
+        due(120, x.length(0));
+        due(60, x.length(1));
+        dueDistance(140, x);
+    }
+
     // Promise 35: ownShare
 
     private static void promise35_endsAre0And1() {

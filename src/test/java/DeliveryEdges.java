@@ -70,17 +70,19 @@ final class DeliveryEdges extends Checks {
     }
 
     private static void promise8_operationsThatAreNothingAreCounted() {
-        Couplet x = shared("ab");
-        x.insert(0, 2, 'c');
-        x.delete(0, 0);
-        x.delete(0, 0);
-        x.delete(1, 0);
-        x.deliverUp(0);
-        x.deliverDown(0);
-        x.deliverUp(1);
-        due(2, x.deliverUp(0));
-        due("0 n-1 d0", message(x, 4));
-        due("c", centre(x));
+        for (int end = 0; end < 2; end++) {
+            Couplet x = shared("ab");
+            x.insert(end, 2, 'c');
+            x.delete(end, 0);
+            x.delete(end, 0);
+            x.delete(1 - end, 0);
+            x.deliverUp(end);
+            x.deliverDown(end);
+            x.deliverUp(1 - end);
+            due(2, x.deliverUp(end));
+            due(end + " n-1 d0", message(x, 4));
+            due("c", centre(x));
+        }
     }
 
     private static void promise8_acknowledgementAndOperationsAreSentEvenIfAllAreNothing() {
@@ -281,6 +283,31 @@ final class DeliveryEdges extends Checks {
         due("b", centre(y));
     }
 
+    /** The end 0 has sent that b and c go, but the end 1 was ahead with b, and then writes behind a. */
+    private static Couplet runThatBeginsWithNothing() {
+        Couplet x = shared("abcdef");
+        x.insert(0, 6, 'z');
+        x.delete(0, 1);
+        x.delete(0, 1);
+        x.deliverUp(0);
+        x.deliverDown(0);
+        x.delete(1, 1);
+        x.deliverUp(1);
+        x.deliverDown(1);
+        x.deliverDown(1);
+        x.insert(1, 1, '1');
+        x.deliverUp(1);
+        return x;
+    }
+
+    private static void promise8_operationsBehindNothingAreTransformedToo() {
+        Couplet x = runThatBeginsWithNothing();
+        due("a1cdefz", centre(x));
+        due(2, x.deliverUp(0));
+        due("0 n-1 d2", message(x, x.centreRevision() - 1));
+        due("a1defz", centre(x));
+    }
+
     // Promise 9: deliverDown
 
     private static void promise9_endsAre0And1() {
@@ -392,19 +419,21 @@ final class DeliveryEdges extends Checks {
     }
 
     private static void promise9_waitingOperationThatBecomesNothingGoesAway() {
-        Couplet x = shared("abc");
-        x.insert(0, 3, 'z');
-        x.delete(0, 1);
-        x.delete(1, 1);
-        x.deliverUp(1);
-        x.deliverDown(0);
-        due("acz", text(x, 0));
-        due(0, x.waiting(0));
-        due(1, x.sent(0));
-        x.deliverUp(0);
-        due('a', x.deliverDown(0));
-        due(0, x.up(0));
-        due(0, x.sent(0));
+        for (int end = 0; end < 2; end++) {
+            Couplet x = shared("abc");
+            x.insert(end, 3, 'z');
+            x.delete(end, 1);
+            x.delete(1 - end, 1);
+            x.deliverUp(1 - end);
+            x.deliverDown(end);
+            due("acz", text(x, end));
+            due(0, x.waiting(end));
+            due(1, x.sent(end));
+            x.deliverUp(end);
+            due('a', x.deliverDown(end));
+            due(0, x.up(end));
+            due(0, x.sent(end));
+        }
     }
 
     private static void promise9_onlyWhatBecameNothingGoesAway() {
@@ -438,6 +467,41 @@ final class DeliveryEdges extends Checks {
         x.type(0, 'x');
         due(1, x.waiting(0));
         due(1, x.up(0));
+    }
+
+    private static void promise9_operationsBehindNothingAreTransformedToo() {
+        Couplet x = runThatBeginsWithNothing();
+        x.deliverDown(0);
+        x.deliverDown(0);
+        due("a1defz", text(x, 0));
+        due("a1defz", byHistory(x, 0));
+        due(2, x.mark(0));
+        x.deliverAll();
+        due("a1defz", text(x, 1));
+    }
+
+    private static void promise9_allThatBecomeNothingByOneMessageGoAway() {
+        Couplet x = shared("abcdef");
+        x.insert(0, 6, 'z');
+        x.delete(0, 1);
+        x.delete(0, 1);
+        x.delete(0, 2);
+        x.delete(0, 1);
+        due(4, x.waiting(0));
+        x.insert(1, 0, '.');
+        x.delete(1, 4);
+        x.delete(1, 3);
+        x.delete(1, 2);
+        x.deliverUp(1);
+        x.deliverDown(1);
+        due(3, x.deliverUp(1));
+        x.deliverDown(0);
+        due(4, x.waiting(0));
+        x.deliverDown(0);
+        due(".afz", text(x, 0));
+        due(1, x.waiting(0));
+        due(1, x.runs(0));
+        due(".afz", byHistory(x, 0));
     }
 
     /** The text and the mark of an end that gets an operation, with one of its own not acknowledged. */

@@ -38,48 +38,50 @@ final class StateEdges extends Checks {
         due(0, x.cursor(0));
     }
 
-    /** The cursor of the end 1 in "abcd" after an operation of the end 0. */
-    private static int cursorAfter(int cursor, char kind, int position) {
-        Couplet x = shared("abcd");
-        x.moveCursor(1, cursor);
-        act(x, 0, kind, position);
-        x.deliverUp(0);
-        x.deliverDown(1);
-        return x.cursor(1);
+    /** Where the cursor of either end is in "abcd" after an operation of the other one. */
+    private static void dueCursors(int want, int cursor, char kind, int position) {
+        for (int end = 0; end < 2; end++) {
+            Couplet x = shared("abcd");
+            x.moveCursor(end, cursor);
+            act(x, 1 - end, kind, position);
+            x.deliverUp(1 - end);
+            x.deliverDown(end);
+            due(want, x.cursor(end));
+        }
     }
 
     private static void promise18_insertionOfTheOtherEndAtALowerPositionMovesIt() {
-        due(3, cursorAfter(2, 'i', 1));
-        due(3, cursorAfter(2, 'i', 0));
-        due(5, cursorAfter(4, 'i', 3));
+        dueCursors(3, 2, 'i', 1);
+        dueCursors(3, 2, 'i', 0);
+        dueCursors(5, 4, 'i', 3);
     }
 
     private static void promise18_insertionOfTheOtherEndAtItsPositionLeavesIt() {
-        due(2, cursorAfter(2, 'i', 2));
-        due(0, cursorAfter(0, 'i', 0));
-        due(4, cursorAfter(4, 'i', 4));
+        dueCursors(2, 2, 'i', 2);
+        dueCursors(0, 0, 'i', 0);
+        dueCursors(4, 4, 'i', 4);
     }
 
     private static void promise18_insertionOfTheOtherEndAtAHigherPositionLeavesIt() {
-        due(2, cursorAfter(2, 'i', 3));
-        due(0, cursorAfter(0, 'i', 4));
+        dueCursors(2, 2, 'i', 3);
+        dueCursors(0, 0, 'i', 4);
     }
 
     private static void promise18_deletionOfTheOtherEndAtALowerPositionMovesIt() {
-        due(1, cursorAfter(2, 'd', 1));
-        due(1, cursorAfter(2, 'd', 0));
-        due(3, cursorAfter(4, 'd', 3));
-        due(0, cursorAfter(1, 'd', 0));
+        dueCursors(1, 2, 'd', 1);
+        dueCursors(1, 2, 'd', 0);
+        dueCursors(3, 4, 'd', 3);
+        dueCursors(0, 1, 'd', 0);
     }
 
     private static void promise18_deletionOfTheOtherEndAtItsPositionLeavesIt() {
-        due(2, cursorAfter(2, 'd', 2));
-        due(0, cursorAfter(0, 'd', 0));
+        dueCursors(2, 2, 'd', 2);
+        dueCursors(0, 0, 'd', 0);
     }
 
     private static void promise18_deletionOfTheOtherEndAtAHigherPositionLeavesIt() {
-        due(2, cursorAfter(2, 'd', 3));
-        due(0, cursorAfter(0, 'd', 3));
+        dueCursors(2, 2, 'd', 3);
+        dueCursors(0, 0, 'd', 3);
     }
 
     private static void promise18_movesByWhatTheOperationBecame() {
@@ -188,41 +190,43 @@ final class StateEdges extends Checks {
         due(3, x.mark(1));
     }
 
-    /** The mark of the end 1, which is at 2 in "abcd", after an operation of its own. */
-    private static int markAfter(char kind, int position) {
-        Couplet x = shared("abd");
-        x.insert(0, 1, 'x');
-        x.deliverAll();
-        due(2, x.mark(1));
-        act(x, 1, kind, position);
-        return x.mark(1);
+    /** Where the mark of either end, which is at 2 in "axbd", is after an operation of its own. */
+    private static void dueMarks(int want, char kind, int position) {
+        for (int end = 0; end < 2; end++) {
+            Couplet x = shared("abd");
+            x.insert(1 - end, 1, 'x');
+            x.deliverAll();
+            due(2, x.mark(end));
+            act(x, end, kind, position);
+            due(want, x.mark(end));
+        }
     }
 
     private static void promise19_ownInsertionAtALowerPositionMovesIt() {
-        due(3, markAfter('i', 1));
-        due(3, markAfter('i', 0));
+        dueMarks(3, 'i', 1);
+        dueMarks(3, 'i', 0);
     }
 
     private static void promise19_ownInsertionAtItsPositionLeavesIt() {
-        due(2, markAfter('i', 2));
+        dueMarks(2, 'i', 2);
     }
 
     private static void promise19_ownInsertionAtAHigherPositionLeavesIt() {
-        due(2, markAfter('i', 3));
-        due(2, markAfter('i', 4));
+        dueMarks(2, 'i', 3);
+        dueMarks(2, 'i', 4);
     }
 
     private static void promise19_ownDeletionAtALowerPositionMovesIt() {
-        due(1, markAfter('d', 1));
-        due(1, markAfter('d', 0));
+        dueMarks(1, 'd', 1);
+        dueMarks(1, 'd', 0);
     }
 
     private static void promise19_ownDeletionAtItsPositionLeavesIt() {
-        due(2, markAfter('d', 2));
+        dueMarks(2, 'd', 2);
     }
 
     private static void promise19_ownDeletionAtAHigherPositionLeavesIt() {
-        due(2, markAfter('d', 3));
+        dueMarks(2, 'd', 3);
     }
 
     private static void promise19_ownOperationAt0LeavesAMarkAt0() {
@@ -231,6 +235,21 @@ final class StateEdges extends Checks {
         due(0, x.mark(1));
         x.delete(1, 0);
         due(0, x.mark(1));
+    }
+
+    private static void promise19_staysByAnAcknowledgement() {
+        for (int end = 0; end < 2; end++) {
+            Couplet x = shared("ab");
+            x.insert(1 - end, 2, 'c');
+            x.deliverAll();
+            x.insert(end, 3, 'd');
+            x.delete(end, 3);
+            for (int i = 0; i < 2; i++) {
+                x.deliverUp(end);
+                due('a', x.deliverDown(end));
+                due(3, x.mark(end));
+            }
+        }
     }
 
     private static void promise19_operationThatUndoesMovesItToo() {
@@ -314,19 +333,21 @@ final class StateEdges extends Checks {
     }
 
     private static void promise21_operationsThatAreNothingAreIncluded() {
-        Couplet x = shared("abc");
-        x.insert(0, 3, 'z');
-        x.delete(0, 0);
-        x.delete(0, 0);
-        x.deliverUp(0);
-        x.deliverDown(0);
-        due(2, x.sent(0));
-        x.delete(1, 0);
-        x.deliverUp(1);
-        x.deliverDown(0);
-        due("cz", text(x, 0));
-        due(2, x.sent(0));
-        due("cz", byHistory(x, 0));
+        for (int end = 0; end < 2; end++) {
+            Couplet x = shared("abc");
+            x.insert(end, 3, 'z');
+            x.delete(end, 0);
+            x.delete(end, 0);
+            x.deliverUp(end);
+            x.deliverDown(end);
+            due(2, x.sent(end));
+            x.delete(1 - end, 0);
+            x.deliverUp(1 - end);
+            x.deliverDown(end);
+            due("cz", text(x, end));
+            due(2, x.sent(end));
+            due("cz", byHistory(x, end));
+        }
     }
 
     // Promise 22: waiting
@@ -358,17 +379,19 @@ final class StateEdges extends Checks {
     }
 
     private static void promise22_operationThatIsNothingIsGone() {
-        Couplet x = shared("abc");
-        x.insert(0, 3, 'z');
-        x.delete(0, 0);
-        x.delete(0, 0);
-        due(2, x.waiting(0));
-        x.delete(1, 0);
-        x.deliverUp(1);
-        x.deliverDown(0);
-        due(1, x.waiting(0));
-        due("cz", text(x, 0));
-        due("cz", byHistory(x, 0));
+        for (int end = 0; end < 2; end++) {
+            Couplet x = shared("abc");
+            x.insert(end, 3, 'z');
+            x.delete(end, 0);
+            x.delete(end, 0);
+            due(2, x.waiting(end));
+            x.delete(1 - end, 0);
+            x.deliverUp(1 - end);
+            x.deliverDown(end);
+            due(1, x.waiting(end));
+            due("cz", text(x, end));
+            due("cz", byHistory(x, end));
+        }
     }
 
     private static void promise22_lookingTheSameIsNotEnoughToGo() {
@@ -590,18 +613,20 @@ final class StateEdges extends Checks {
     }
 
     private static void promise25_messagesPileUp() {
-        Couplet x = new Couplet();
-        for (int i = 0; i < 60; i++) {
-            x.type(0, 'a');
-            x.deliverUp(0);
-            x.deliverDown(0);
+        for (int end = 0; end < 2; end++) {
+            Couplet x = new Couplet();
+            for (int i = 0; i < 60; i++) {
+                x.type(end, 'a');
+                x.deliverUp(end);
+                x.deliverDown(end);
+            }
+            due(60, x.down(1 - end));
+            due(0, x.down(end));
+            x.deliverDown(1 - end);
+            due(59, x.down(1 - end));
+            due(59, x.deliverAll());
+            due(60, x.length(1 - end));
         }
-        due(60, x.down(1));
-        due(0, x.down(0));
-        x.deliverDown(1);
-        due(59, x.down(1));
-        due(59, x.deliverAll());
-        due(60, x.length(1));
     }
 
     // Promise 26: kept

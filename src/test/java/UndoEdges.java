@@ -33,16 +33,19 @@ final class UndoEdges extends Checks {
     }
 
     private static void promise7_whatUndoesIsNotKept() {
-        Couplet x = typed(0, "ab");
-        x.erase(0);
-        due(true, x.undo(0));
-        due(2, x.kept(0));
-        // What is undone now are the two insertions; the b of the second one is gone.
-        due(false, x.undo(0));
-        due("ab", text(x, 0));
-        due(true, x.undo(0));
-        due("b", text(x, 0));
-        dueRefused(ELEMENT, x, () -> x.undo(0));
+        for (int end = 0; end < 2; end++) {
+            int writer = end;
+            Couplet x = typed(writer, "ab");
+            x.erase(writer);
+            due(true, x.undo(writer));
+            due(2, x.kept(writer));
+            // What is undone now are the two insertions; the b of the second one is gone.
+            due(false, x.undo(writer));
+            due("ab", text(x, writer));
+            due(true, x.undo(writer));
+            due("b", text(x, writer));
+            dueRefused(ELEMENT, x, () -> x.undo(writer));
+        }
     }
 
     private static void promise7_newOperationIsUndoneAheadOfThoseLeft() {
@@ -119,17 +122,24 @@ final class UndoEdges extends Checks {
         due("1", owners(x, 0));
         due(true, x.undo(1));
         due("0", owners(x, 1));
+        Couplet y = typed(1, "a");
+        y.deliverAll();
+        y.type(0, 'a');
+        y.deliverAll();
+        due("01", owners(y, 0));
+        due(true, y.undo(1));
+        due("0", owners(y, 1));
     }
 
     private static void promise7_characterThatTheEndDeletedIsNotThere() {
-        Couplet x = typed(0, "a");
-        x.erase(0);
-        due(true, x.undo(0));
-        String before = text(x, 0);
-        due(false, x.undo(0));
-        due(before, text(x, 0));
-        due("a", text(x, 0));
-        due(0, x.kept(0));
+        for (int end = 0; end < 2; end++) {
+            Couplet x = typed(end, "a");
+            x.erase(end);
+            due(true, x.undo(end));
+            due(false, x.undo(end));
+            due("a", text(x, end));
+            due(0, x.kept(end));
+        }
     }
 
     private static void promise7_characterThatTheOtherEndDeletedIsNotThere() {
@@ -203,6 +213,13 @@ final class UndoEdges extends Checks {
         x.deliverAll();
         due("abc", text(x, 0));
         due("010", owners(x, 0));
+        Couplet y = typed(1, "abc");
+        y.deliverAll();
+        y.delete(0, 1);
+        due(true, y.undo(0));
+        due("101", owners(y, 0));
+        y.deliverAll();
+        due("101", owners(y, 1));
     }
 
     private static void promise7_bothEndsPutBackOneCharacterEach() {
@@ -217,48 +234,50 @@ final class UndoEdges extends Checks {
         due("01", owners(x, 1));
     }
 
-    /** The end 1 deletes the d of "abcdef", then the end 0 acts; what is there when the d is put back. */
-    private static String putBackBehind(char kind, int position) {
-        Couplet x = shared("abcdef");
-        x.delete(1, 3);
-        x.deliverAll();
-        if (kind == 'i') {
-            x.insert(0, position, '0');
-        } else {
-            x.delete(0, position);
+    /** An end deletes the d of "abcdef", then the other one acts; what is there when the d is put back. */
+    private static void duePutBack(String want, char kind, int position) {
+        for (int end = 0; end < 2; end++) {
+            Couplet x = shared("abcdef");
+            x.delete(end, 3);
+            x.deliverAll();
+            if (kind == 'i') {
+                x.insert(1 - end, position, '0');
+            } else {
+                x.delete(1 - end, position);
+            }
+            x.deliverAll();
+            due(true, x.undo(end));
+            x.deliverAll();
+            due(want, text(x, 0));
+            due(want, text(x, 1));
         }
-        x.deliverAll();
-        due(true, x.undo(1));
-        x.deliverAll();
-        due(true, x.agree());
-        return text(x, 0);
     }
 
     private static void promise7_placeMovesByAnInsertionAtALowerPosition() {
-        due("ab0cdef", putBackBehind('i', 2));
-        due("0abcdef", putBackBehind('i', 0));
+        duePutBack("ab0cdef", 'i', 2);
+        duePutBack("0abcdef", 'i', 0);
     }
 
     private static void promise7_placeStaysByAnInsertionAtTheSamePosition() {
-        due("abcd0ef", putBackBehind('i', 3));
+        duePutBack("abcd0ef", 'i', 3);
     }
 
     private static void promise7_placeStaysByAnInsertionAtAHigherPosition() {
-        due("abcde0f", putBackBehind('i', 4));
-        due("abcdef0", putBackBehind('i', 5));
+        duePutBack("abcde0f", 'i', 4);
+        duePutBack("abcdef0", 'i', 5);
     }
 
     private static void promise7_placeMovesByADeletionAtALowerPosition() {
-        due("abdef", putBackBehind('d', 2));
-        due("bcdef", putBackBehind('d', 0));
+        duePutBack("abdef", 'd', 2);
+        duePutBack("bcdef", 'd', 0);
     }
 
     private static void promise7_placeStaysByADeletionAtTheSamePosition() {
-        due("abcdf", putBackBehind('d', 3));
+        duePutBack("abcdf", 'd', 3);
     }
 
     private static void promise7_placeStaysByADeletionAtAHigherPosition() {
-        due("abcde", putBackBehind('d', 4));
+        duePutBack("abcde", 'd', 4);
     }
 
     private static void promise7_placeMovesByWhatTheOperationOfTheOtherEndBecame() {
@@ -304,6 +323,19 @@ final class UndoEdges extends Checks {
         due("acd", text(x, 0));
         due(true, x.undo(0));
         due("abcd", text(x, 0));
+    }
+
+    private static void promise7_placesOfAllDeletionsMoveNotOnlyTheLatestOne() {
+        Couplet x = shared("abcdef");
+        x.delete(1, 5);
+        x.delete(1, 3);
+        x.deliverAll();
+        x.insert(0, 0, '0');
+        x.deliverAll();
+        due(true, x.undo(1));
+        due("0abcde", text(x, 1));
+        due(true, x.undo(1));
+        due("0abcdef", text(x, 1));
     }
 
     private static void promise7_placesOfErasuresMeetAtTheLowestOne() {

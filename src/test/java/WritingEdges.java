@@ -1,5 +1,24 @@
+import java.util.ArrayList;
+import java.util.List;
+
 /** The boundary cases of the promises 1 to 6: a new object, and what an end writes and erases. */
 final class WritingEdges extends Checks {
+
+    private interface Writing {
+        Object answer(char character);
+    }
+
+    /** Calls with all characters below the least one, and with those above the greatest one up to 255. */
+    private static Call[] writingAllWrong(Writing writing) {
+        List<Call> calls = new ArrayList<>();
+        for (char c = 0; c < 256; c++) {
+            char wrong = c;
+            if (c < ' ' || c > '~') {
+                calls.add(() -> writing.answer(wrong));
+            }
+        }
+        return calls.toArray(new Call[0]);
+    }
 
     // Promise 1: a new object
 
@@ -128,6 +147,20 @@ final class WritingEdges extends Checks {
                 () -> x.insert(0, 0, (char) (256 + 'a')));
     }
 
+    private static void promise2_eachCharacterBetweenThemIsTaken() {
+        Couplet x = new Couplet();
+        for (char c = ' '; c <= '~'; c++) {
+            due(1, x.insert(0, 0, c));
+            due(c, x.charAt(0, 0));
+            due(c, x.delete(0, 0));
+        }
+    }
+
+    private static void promise2_noCharacterBesideThemIsTaken() {
+        Couplet x = typed(0, "a");
+        dueRefused(ARGUMENT, x, writingAllWrong(c -> x.insert(0, 0, c)));
+    }
+
     private static void promise2_the60thCharacterIsTaken() {
         Couplet x = typed(0, "x".repeat(59));
         due(60, x.insert(0, 59, 'y'));
@@ -201,10 +234,18 @@ final class WritingEdges extends Checks {
     private static void promise2_operationsThatUndoAreCounted() {
         Couplet x = new Couplet();
         for (int i = 0; i < 100; i++) {
-            due(1, x.insert(0, 0, 'a'));
-            due(true, x.undo(0));
+            due(1, x.insert(i % 2, 0, 'a'));
+            due(true, x.undo(i % 2));
         }
         dueRefused(STATE, x, () -> x.insert(0, 0, 'a'));
+        Couplet y = new Couplet();
+        for (int i = 0; i < 50; i++) {
+            due(1, y.insert(i % 2, 0, 'a'));
+            due('a', y.delete(i % 2, 0));
+            due(true, y.undo(i % 2));
+            due('a', y.delete(i % 2, 0));
+        }
+        dueRefused(STATE, y, () -> y.insert(0, 0, 'a'));
     }
 
     private static void promise2_undoingWithoutAnOperationIsNotCounted() {
@@ -400,6 +441,11 @@ final class WritingEdges extends Checks {
         Couplet x = typed(0, "a");
         dueRefused(ARGUMENT, x, () -> x.type(0, (char) 31), () -> x.type(0, (char) 127),
                 () -> x.type(0, (char) 0), () -> x.type(0, (char) 65535), () -> x.type(0, (char) (256 + 'a')));
+    }
+
+    private static void promise4_noCharacterBesideThemIsTaken() {
+        Couplet x = typed(0, "a");
+        dueRefused(ARGUMENT, x, writingAllWrong(c -> x.type(0, c)));
     }
 
     private static void promise4_the60thCharacterIsTaken() {
