@@ -132,6 +132,33 @@ final class DeliveryEdges extends Checks {
         due("1 i4", message(x, 4));
     }
 
+    private static void promise8_messageIsTransformedByMessagesInTheirOrder() {
+        Couplet x = shared("abc");
+        x.insert(1, 2, '1');
+        x.delete(0, 1);
+        x.deliverUp(0);
+        x.deliverDown(0);
+        x.delete(0, 0);
+        x.deliverUp(0);
+        x.deliverUp(1);
+        due("1 i0", message(x, 4));
+        due("1c", centre(x));
+    }
+
+    private static void promise8_messageIsTransformedByOperationsOfAMessageInTheirOrder() {
+        Couplet x = shared("abc");
+        x.insert(1, 2, '1');
+        x.insert(0, 3, 'z');
+        x.delete(0, 1);
+        x.delete(0, 0);
+        x.deliverUp(0);
+        x.deliverDown(0);
+        due(2, x.deliverUp(0));
+        x.deliverUp(1);
+        due("1 i0", message(x, 4));
+        due("1cz", centre(x));
+    }
+
     private static void promise8_messageHasTheRevisionOfWhenItWasSent() {
         // The a of the end 0 comes to the end 1 when the b is sent already, but not delivered.
         Couplet x = typed(0, "a");

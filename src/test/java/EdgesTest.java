@@ -4,7 +4,7 @@ import java.util.TreeMap;
 /** Each boundary case that the document names, in a function named after the promise and the case. */
 public final class EdgesTest extends Checks {
     private static final int PROMISES = 37;
-    private static final Class<?>[] CASES = {
+    static final Class<?>[] CASES = {
         WritingEdges.class, UndoEdges.class, DeliveryEdges.class, StateEdges.class, AnswerEdges.class};
 
     public static void main(String[] args) {

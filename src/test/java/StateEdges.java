@@ -102,6 +102,29 @@ final class StateEdges extends Checks {
         due(4, x.cursor(1));
     }
 
+    private static void promise18_doesNotMoveByWhatTheOperationWas() {
+        for (int end = 0; end < 2; end++) {
+            // The other end inserts at 3, which is at the cursor for this one, as it has inserted an x.
+            Couplet x = shared("abcd");
+            x.insert(end, 0, 'x');
+            x.moveCursor(end, 4);
+            x.insert(1 - end, 3, '-');
+            x.deliverUp(1 - end);
+            x.deliverDown(end);
+            due("xabc-d", text(x, end));
+            due(4, x.cursor(end));
+            // It inserts at 2, which is ahead of the cursor for this one, as it has deleted the a.
+            Couplet y = shared("abcd");
+            y.delete(end, 0);
+            y.moveCursor(end, 2);
+            y.insert(1 - end, 2, '-');
+            y.deliverUp(1 - end);
+            y.deliverDown(end);
+            due("b-cd", text(y, end));
+            due(3, y.cursor(end));
+        }
+    }
+
     private static void promise18_staysByAnAcknowledgement() {
         Couplet x = typed(0, "ab");
         x.moveCursor(0, 1);
@@ -151,6 +174,23 @@ final class StateEdges extends Checks {
         x.moveCursor(1, 1);
         x.deliverAll();
         due(4, x.mark(1));
+    }
+
+    private static void promise19_isAtWhatTheOperationBecame() {
+        for (int end = 0; end < 2; end++) {
+            Couplet x = shared("abcd");
+            x.insert(end, 0, 'x');
+            x.insert(1 - end, 3, '-');
+            x.deliverUp(1 - end);
+            x.deliverDown(end);
+            due(5, x.mark(end));
+            Couplet y = shared("abcd");
+            y.insert(end, 0, 'x');
+            y.delete(1 - end, 3);
+            y.deliverUp(1 - end);
+            y.deliverDown(end);
+            due(4, y.mark(end));
+        }
     }
 
     private static void promise19_lastOperationOfAMessageCounts() {
