@@ -168,6 +168,14 @@ final class DeliveryEdges extends Checks {
         due(1, x.revision(1));
         x.deliverUp(1);
         due("1 i1", message(x, 1));
+        Couplet y = shared("abc");
+        y.insert(0, 3, 'z');
+        y.insert(1, 0, 'y');
+        y.deliverUp(1);
+        y.deliverDown(0);
+        due(3, y.revision(0));
+        y.deliverUp(0);
+        due("0 i4", message(y, 3));
     }
 
     private static void promise8_waitingOperationsHaveTheRevisionWithTheAcknowledgement() {

@@ -696,6 +696,25 @@ final class StateEdges extends Checks {
         due(4, x.kept(0));
     }
 
+    private static void promise26_deletionOfACharacterOfTheOtherEndIsKept() {
+        Couplet x = shared("ab");
+        x.delete(1, 0);
+        due(1, x.kept(1));
+        due(2, x.kept(0));
+        x.deliverAll();
+        due(1, x.kept(1));
+        due(2, x.kept(0));
+    }
+
+    private static void promise26_operationThatBecameNothingIsKept() {
+        Couplet x = shared("ab");
+        x.delete(0, 0);
+        x.delete(1, 0);
+        x.deliverAll();
+        due(3, x.kept(0));
+        due(1, x.kept(1));
+    }
+
     private static void promise26_all200AreKept() {
         Couplet x = new Couplet();
         for (int i = 0; i < 100; i++) {
